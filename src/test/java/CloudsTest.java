@@ -69,8 +69,12 @@ public final class CloudsTest {
             x.become(0, 10 * k + 3);
             Due.is("10: falls on an odd day of " + k, x.ofCloud(0, 6), odd[k]);
         }
-        Due.write(x, 0, "w/9");
         x.become(0, 13);
+        x.lead(0, 1, 9);
+        Due.is("10: patched, wear 9", x.ofCloud(0, 6), 12);
+        x.lead(0, 1, 10);
+        Due.is("10: patched, wear 10", x.ofCloud(0, 6), 11);
+        Due.write(x, 0, "w/9");
         x.lead(0, 1, 25);
         Due.is("10: patched, 0 at least", x.ofCloud(0, 6), 0);
     }

@@ -8,6 +8,7 @@ public final class DaysTest {
         held();
         bounds();
         loose();
+        looseWithOne();
         clear();
         Due.end();
     }
@@ -50,9 +51,19 @@ public final class DaysTest {
         x.change(2, 1, 9999);
         x.change(2, 0, 5);
         int before = x.ofRoof(2, 2);
+        sundayOverTheFirst();
         x.days(1);
         Due.is("17: leased by the shares of the roof of sunday", x.ofRoof(2, 2) - before, 17);
         Due.is("17: held", x.ofRoof(2, 1), 9999);
+    }
+
+    private static void sundayOverTheFirst() {
+        RainShares x = Due.valley(11, 20);
+        x.days(6);
+        x.cloud(0, 1);
+        x.days(1);
+        Due.is("17: roof 0 on sunday", x.ofRoof(0, 2), 12);
+        Due.is("17: one too much", x.ofRoof(0, 1), 1);
     }
 
     private static void spent() {
@@ -113,7 +124,11 @@ public final class DaysTest {
         Due.is("17: day", x.count(2), 9960);
         Due.is("17: above 9999", x.days(40), Due.STATE);
         Due.is("18: above 9999", x.loose(40), Due.STATE);
-        Due.is("17: up to 9999", x.days(39), 0);
+        Due.is("17: up to 9998", x.days(38), 0);
+        x.image();
+        Due.is("18: up to 9999", x.loose(1), 0);
+        x.restore();
+        Due.is("17: up to 9999", x.days(1), 0);
         Due.is("17: above 9999", x.days(1), Due.STATE);
         Due.is("18: above 9999", x.loose(1), Due.STATE);
         Due.is("17: BEYOND ahead of STATE", x.days(0), Due.BEYOND);
@@ -151,6 +166,16 @@ public final class DaysTest {
         Due.is("18: over", x.ofCloud(0, 2), over[0]);
         Due.is("18: over", x.ofCloud(1, 2), over[1]);
         Due.is("18: day", x.count(2), 6);
+    }
+
+    private static void looseWithOne() {
+        RainShares x = Due.valley(0, 0, 0);
+        x.cloud(0, 2);
+        x.seed(5);
+        int z = (5 * 1103515245 + 12345) * 1103515245 + 12345;
+        x.loose(1);
+        Due.is("18: two draws for one cloud", x.count(10), z);
+        Due.is("18: it came over", x.ofRoof((z >>> 8) % 3, 2), 12);
     }
 
     private static void clear() {

@@ -135,6 +135,9 @@ public final class ThoughtTest {
         Due.is("26: fewer than two others", x.trades(), 2);
         x.change(2, 2, 1);
         Due.is("26: as many do not trade", x.trades(), 4);
+        x.change(0, 2, 2);
+        Due.is("26: the first one", x.trades(), 4);
+        x.change(0, 2, 0);
         x.change(3, 2, 99);
         Due.is("26: the greater rank with more shares", x.trades(), 2);
         Due.is("26: none", new RainShares().trades(), 0);
@@ -171,6 +174,9 @@ public final class ThoughtTest {
         Due.write(x, 0, "0");
         x.sheet(0, 32, 2);
         Due.is("27: clouds that give 0", x.fell(0, 0), 8);
+        Due.is("27: the least of them", x.fell(0, 1), 0);
+        x.lead(0, 1, 20);
+        Due.is("27: the first one spent", x.fell(0, 0), 4);
         RainShares y = new RainShares();
         y.sheet(1, 8, 0);
         Due.is("27: no roofs, no numbers", y.fell(1, 0), 1);
