@@ -626,16 +626,12 @@ public final class RainShares {
             }
         }
 
-        /** The caller has seen that there is room. A ROOF is never taken away, so all else is still 0. */
+        /**
+         * The caller has seen that there is room. All else of a new ROOF is still 0: an IMAGE brings the
+         * rows of the ROOFS that it lacks along.
+         */
         int add(int sharesAtFirst) {
             shares[many] = sharesAtFirst;
-            arrears[many] = 0;
-            got[many] = 0;
-            rank[many] = 0;
-            for (int a = 0; a < MOST_ROOFS; a++) {
-                owed[many][a] = 0;
-                owed[a][many] = 0;
-            }
             many++;
             return many - 1;
         }

@@ -92,6 +92,29 @@ public final class ImagesTest {
         y.tell(1);
         Due.is("38: an empty one", y.restore(), 0);
         Due.is("38: an empty one", y.count(0) + y.count(8), 0);
+        newRoofBehindAnImage();
+    }
+
+    private static void newRoofBehindAnImage() {
+        RainShares x = Due.valley(10);
+        x.image();
+        x.roof(20);
+        for (int what = 0; what < 3; what++) {
+            x.change(1, what, 9);
+        }
+        x.owe(0, 1, 8);
+        x.owe(1, 0, 8);
+        x.cloud(0, 1);
+        x.lead(0, 1, 5);
+        x.days(1);
+        x.restore();
+        x.roof(30);
+        x.cloud(0, 0);
+        for (int what = 1; what < 6; what++) {
+            Due.is("38: a new roof is as at first", x.ofRoof(1, what), 0);
+        }
+        Due.is("38: nothing is owed", x.owed(0, 1), 0);
+        Due.is("38: a new cloud is as at first", x.ofCloud(0, 3), 0);
     }
 
     private static void tellAndCheck() {
