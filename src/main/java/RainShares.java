@@ -640,6 +640,10 @@ public final class RainShares {
             return roof >= 0 && roof < many;
         }
 
+        int sharesOf(int roof) {
+            return has(roof) ? shares[roof] : 0;
+        }
+
         boolean areTwo(int roof, int other) {
             return has(roof) && has(other) && roof != other;
         }
@@ -775,7 +779,7 @@ public final class RainShares {
 
         boolean isOf(int cloud, int wanted) {
             int k = kind[cloud];
-            for (int up = 0; up < KINDS && k != wanted && k > CLOUD; up++) {
+            for (int up = 0; up < KINDS && k != wanted && k > CLOUD && k < KINDS; up++) {
                 k = ABOVE[k];
             }
             return k == wanted;
@@ -877,9 +881,9 @@ public final class RainShares {
                 case BLIND:
                     return v + day % 2 * m;
                 case LEASED:
-                    return Math.min(v, roofs.shares[roof]);
+                    return Math.min(v, roofs.sharesOf(roof));
                 case HAIL:
-                    return Math.min(v, roofs.shares[roof]) / 2;
+                    return Math.min(v, roofs.sharesOf(roof)) / 2;
                 default:
                     return v;
             }
@@ -935,7 +939,7 @@ public final class RainShares {
             }
             for (int c = 0; c < clouds.many; c++) {
                 int roof = onto[c];
-                if (roof >= 0) {
+                if (roofs.has(roof)) {
                     fallen[roof] += drops[c];
                     roofs.got[roof] = Math.min(MOST_GOT, roofs.got[roof] + drops[c]);
                     clouds.wear[c] = Math.min(MOST_WEAR, clouds.wear[c] + 1);
@@ -1234,7 +1238,7 @@ public final class RainShares {
 
         /** The BODY of an act that the KIND has, or the next one above that has one. */
         private int say(int from, int act, int x, int depth) {
-            if (from < CLOUD || depth > DEEPEST) {
+            if (from < CLOUD || from >= KINDS || depth > DEEPEST) {
                 return 0;
             }
             int owner = from;
